@@ -1,0 +1,20 @@
+/** Runs every test of the project; the exit code is 1 if one fails. */
+public final class AllTests {
+    private AllTests() {
+    }
+
+    public static void main(String[] args) {
+        FaceTests.run();
+        TextTests.run();
+        LookTests.run();
+        ActionTests.run();
+        WhatIfTests.run();
+        ScriptTests.run();
+        SlotTests.run();
+        ModelTest.run();
+        System.out.println(Check.passed + " passed, " + Check.failed + " failed");
+        if (Check.failed > 0) {
+            System.exit(1);
+        }
+    }
+}
