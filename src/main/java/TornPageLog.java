@@ -768,8 +768,9 @@ public final class TornPageLog {
             keys[address] = key;
             values[address] = value;
             marks[address] = mark;
+            // A removal is live too: it is only written for a key that another page has.
+            live[address] = 1;
             int before = newest[key];
-            live[address] = value != REMOVAL || before != NONE ? 1 : 0;
             if (before >= 0 && before < MOST_PAGES) {
                 live[before] = 0;
             }
@@ -894,7 +895,7 @@ public final class TornPageLog {
 
     /** The state: everything but the text, the save slots and the remembered states. */
     private static final class Log {
-        /** Each sweep of a record makes a page clean that was not, so 32 would do. */
+        /** More than any record needs: each sweep leaves fewer pages that are not clean, of 32 at most. */
         private static final int MOST_SWEEPS = 1000;
 
         final Flash flash = new Flash();
@@ -1084,7 +1085,8 @@ public final class TornPageLog {
             }
             if (isCutNow()) {
                 flash.wipe(chosen, Flash.TORN);
-                losePower(first, true, true);
+                tally.countCut(first, true, true);
+                switchOff();
                 return CUT;
             }
             flash.wipe(chosen, Flash.CLEAN);
@@ -1107,7 +1109,8 @@ public final class TornPageLog {
         private boolean writePage(int address, int key, int value, boolean inSweep) {
             if (isCutNow()) {
                 flash.tear(address);
-                losePower(address, false, inSweep);
+                tally.countCut(address, false, inSweep);
+                switchOff();
                 return false;
             }
             flash.write(address, key, value, nextMark);
@@ -1129,8 +1132,7 @@ public final class TornPageLog {
             return cutIn == 0;
         }
 
-        private void losePower(int address, boolean erasing, boolean inSweep) {
-            tally.countCut(address, erasing, inSweep);
+        private void switchOff() {
             on = false;
             open = NONE;
         }

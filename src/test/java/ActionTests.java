@@ -13,6 +13,7 @@ final class ActionTests {
         policyTies();
         cut();
         start();
+        startBehindErasedMarks();
         setPolicy();
         undo();
         undoOfEachAction();
@@ -172,19 +173,32 @@ final class ActionTests {
     }
 
     private static void policyTies() {
-        // Blocks 0 and 1 have one live page each, block 0 is worn more.
         TornPageLog log = Look.loaded("F520");
         puts(log, 0, 0, 0, 0, 1);
         log.sweep();
         puts(log, 1, 1, 2, 3, 3, 3, 3, 4, 5, 5, 4);
-        Check.same("two with the same live pages", log.block(1, 1), 2);
-        Check.same("and no live page", log.block(2, 1), 1);
+        Check.same("two live pages", log.block(1, 1), 2);
+        Check.same("one live page", log.block(2, 1), 1);
         Check.same("policy 0 takes the fewest", log.victim(), 2);
-        TornPageLog same = Look.loaded("F520");
-        puts(same, 0, 0, 0, 0, 1, 1, 1, 1, 2);
+        // Blocks 0 and 1 are torn, both with a wear of 1; the marks of their records are gone.
+        TornPageLog torn = Look.loaded("F820p00000p00000p00000p00000p00000c01ws");
+        puts(torn, 0, 0, 0, 0);
+        Check.same("without live pages, that with the least wear", torn.victim(), 1);
+        torn.cut(1);
+        torn.sweep();
+        torn.start();
         for (int policy = 0; policy < 3; policy++) {
-            same.setPolicy(policy);
-            Check.same("the smallest number, policy " + policy, same.victim(), 0);
+            torn.setPolicy(policy);
+            Check.same("the smallest number, policy " + policy, torn.victim(), 0);
+            Check.same("the other one", torn.block(1, 5), 1);
+        }
+        // Blocks 1 and 2 have two live pages each, and no wear.
+        TornPageLog alike = Look.loaded("F820p00000p00000p00000p00000p01000w");
+        puts(alike, 2, 2, 0, 3, 3, 3, 4);
+        Check.same("two that are alike", alike.block(1, 1) - alike.block(2, 1), 0);
+        for (int policy = 0; policy < 3; policy++) {
+            alike.setPolicy(policy);
+            Check.same("the first of two that are alike, policy " + policy, alike.victim(), 1);
         }
     }
 
@@ -242,6 +256,27 @@ final class ActionTests {
         TornPageLog last = Look.loaded("F320p00000p00000p00000c01p00000");
         last.start();
         Check.same("a block whose last page is torn is not open", last.about(3), -9);
+    }
+
+    private static void startBehindErasedMarks() {
+        TornPageLog log = new TornPageLog();
+        puts(log, 0, 0, 1, 1);
+        log.remove(1);
+        log.remove(0);
+        Check.same("sweep of what was removed", log.sweep(), 0);
+        Check.same("nothing was copied", log.about(8), 0);
+        Check.same("removals of nothing are dead", log.block(1, 1), 0);
+        for (int i = 0; i < 2; i++) {
+            log.cut(1);
+            puts(log, 2);
+            log.start();
+        }
+        Check.same("sweep of the removals", log.sweep(), 1);
+        log.cut(1);
+        puts(log, 2);
+        Check.same("start with no written page", log.start(), 0);
+        Check.same("put then", log.put(3, 3), 12);
+        Check.same("the first mark again", log.page(12, 3), 1);
     }
 
     private static void setPolicy() {

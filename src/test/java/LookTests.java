@@ -8,6 +8,7 @@ final class LookTests {
         sweptPages();
         tornPage();
         tornBlock();
+        wearSpread();
         keysInOrder();
         wrongArguments();
     }
@@ -137,6 +138,17 @@ final class LookTests {
         page(other, 2, 1, 0, 3, 3, 0);
         page(other, 3, 1, 1, 1, 4, 1);
         page(other, 5, 1, 0, 3, 6, 1);
+    }
+
+    private static void wearSpread() {
+        TornPageLog log = Look.loaded("F320");
+        for (int i = 0; i < 60; i++) {
+            log.put(0, i);
+            int most = Math.max(log.block(0, 0), Math.max(log.block(1, 0), log.block(2, 0)));
+            int least = Math.min(log.block(0, 0), Math.min(log.block(1, 0), log.block(2, 0)));
+            Check.same("about 13 behind put " + i, log.about(13), most - least);
+        }
+        Check.isTrue("all blocks were erased", log.block(1, 0) > 0 && log.block(2, 0) > 0);
     }
 
     private static void keysInOrder() {

@@ -177,7 +177,7 @@ final class ScriptTests {
         log.cut(1);
         Check.same("a cut that is set falls in a round", log.simulate(0, 1), 1021);
         log.put(0, 0);
-        Check.same("a round switches the power on", log.simulate(0, 1) / 1000, 1);
+        Check.same("a round switches the power on", log.simulate(0, 1), 1002);
         TornPageLog full = new TornPageLog();
         for (int i = 0; i < 12; i++) {
             full.put(i, 0);

@@ -166,6 +166,10 @@ final class TextTests {
         Check.same("load: operations", log.about(6), 8);
         Check.same("load: copies", log.about(8), 2);
         Check.same("load keeps the text", log.clearText(), 37);
+        Look.write(log, "F802p00111");
+        Check.same("load while a cut is set", log.load(), 0);
+        Check.same("load takes the cut back", log.about(11), 0);
+        log.clearText();
         Look.write(log, "F802c01p00111s");
         Check.same("load of a power cut", log.load(), 0);
         Check.same("load: power cuts", log.about(10), 1);
