@@ -315,28 +315,18 @@ final class ActionTests {
     }
 
     private static void undoOfEachAction() {
-        TornPageLog log = threeVictims();
-        String[] looks = new String[9];
-        looks[0] = Look.at(log);
-        log.setPolicy(0);
-        looks[1] = Look.at(log);
-        log.cut(0);
-        looks[2] = Look.at(log);
-        log.remove(4);
-        looks[3] = Look.at(log);
-        log.sweep();
-        looks[4] = Look.at(log);
-        log.cut(1);
-        looks[5] = Look.at(log);
-        log.put(4, 4);
-        looks[6] = Look.at(log);
-        log.start();
-        looks[7] = Look.at(log);
-        log.put(4, 5);
-        for (int i = 7; i >= 0; i--) {
-            log.undo();
-            Check.same("undo of action " + i + ":", Look.at(log), looks[i]);
+        String[] actions = {"q0", "c00", "d04", "w", "c01", "p04004", "s", "p04005"};
+        for (int kept = 0; kept < actions.length; kept++) {
+            TornPageLog log = threeVictims();
+            TornPageLog due = threeVictims();
+            for (int i = 0; i < actions.length; i++) {
+                Check.isTrue(actions[i] + " throws nothing", !Run.on(log, actions[i]).equals("state"));
+                if (i < kept) {
+                    Run.on(due, actions[i]);
+                }
+            }
+            Run.on(log, Run.times(actions.length - kept, "u"));
+            Check.same("undo of all but " + kept + " actions:", Look.at(log), Look.at(due));
         }
-        Check.same("setPolicy and cut that change nothing are actions", looks[2], looks[0]);
     }
 }

@@ -11,6 +11,14 @@ public final class AllTests {
         WhatIfTests.run();
         ScriptTests.run();
         SlotTests.run();
+        TermEdges.run();
+        TextEdges.run();
+        LookEdges.run();
+        ActionEdges.run();
+        WhatIfEdges.run();
+        ScriptEdges.run();
+        SlotEdges.run();
+        Refusals.run();
         ModelTest.run();
         System.out.println(Check.passed + " passed, " + Check.failed + " failed");
         if (Check.failed > 0) {

@@ -42,11 +42,11 @@ final class Check {
         }
     }
 
-    /** A call that throws exactly this exception and changes nothing that can be seen. */
+    /** A call that throws exactly this exception; Refusals looks closer at whether such calls change nothing. */
     static void refuses(TornPageLog log, String what, Class<? extends RuntimeException> due, IntSupplier call) {
-        String before = Look.at(log);
+        String before = Look.brief(log);
         same(what, answer(call), due.getSimpleName());
-        same(what + " changes nothing:", Look.at(log), before);
+        same(what + " changes nothing:", Look.brief(log), before);
     }
 
     static void badArgument(TornPageLog log, String what, IntSupplier call) {

@@ -168,24 +168,26 @@ final class LookTests {
     }
 
     private static void wrongArguments() {
-        TornPageLog log = full();
         for (int wrong : new int[] {-1, 14, Integer.MIN_VALUE, Integer.MAX_VALUE}) {
+            TornPageLog log = full();
             Check.badArgument(log, "about " + wrong, () -> log.about(wrong));
             Check.badArgument(log, "page 0, " + wrong, () -> log.page(0, wrong));
             Check.badArgument(log, "page 4, " + wrong, () -> log.page(4, wrong));
             Check.badArgument(log, "block 0, " + wrong, () -> log.block(0, wrong));
             Check.badArgument(log, "lastCut " + wrong, () -> log.lastCut(wrong));
         }
+        TornPageLog log = full();
         Check.badArgument(log, "page 0, 5", () -> log.page(0, 5));
         Check.badArgument(log, "block 0, 6", () -> log.block(0, 6));
         Check.badArgument(log, "lastCut 3", () -> log.lastCut(3));
         for (int wrong : new int[] {-1, 16, Integer.MIN_VALUE, Integer.MAX_VALUE}) {
-            Check.badIndex(log, "page " + wrong, () -> log.page(wrong, 0));
-            Check.badIndex(log, "page with two wrong arguments", () -> log.page(wrong, 5));
-            Check.badIndex(log, "block " + wrong, () -> log.block(wrong, 0));
-            Check.badIndex(log, "block with two wrong arguments", () -> log.block(wrong, -1));
-            Check.badArgument(log, "get " + wrong, () -> log.get(wrong));
-            Check.badArgument(log, "newest " + wrong, () -> log.newest(wrong));
+            TornPageLog other = full();
+            Check.badIndex(other, "page " + wrong, () -> other.page(wrong, 0));
+            Check.badIndex(other, "page with two wrong arguments", () -> other.page(wrong, 5));
+            Check.badIndex(other, "block " + wrong, () -> other.block(wrong, 0));
+            Check.badIndex(other, "block with two wrong arguments", () -> other.block(wrong, -1));
+            Check.badArgument(other, "get " + wrong, () -> other.get(wrong));
+            Check.badArgument(other, "newest " + wrong, () -> other.newest(wrong));
         }
         Check.badIndex(log, "block 4", () -> log.block(4, 0));
         Check.badArgument(log, "keyAt -1", () -> log.keyAt(-1));

@@ -6,6 +6,9 @@ final class ModelTest {
     private static final int[] ODD = {Integer.MIN_VALUE, -10, -9, -2, -1, 16, 17, 32, 100, 256, 1000, 1001,
         Integer.MAX_VALUE};
 
+    /** Behind these nothing is promised of an object. */
+    private static final int MOST_CALLS = 512;
+
     private final Random random;
     private final TornPageLog log = new TornPageLog();
     private final Model model = new Model();
@@ -13,8 +16,9 @@ final class ModelTest {
     private final boolean hostile;
     private final int cutWeight;
     private boolean fine = true;
+    private int made;
 
-    /** While all is looked at, such calls are not told in the run. */
+    /** What only looks is not told in the run. */
     private boolean looking;
 
     private ModelTest(long seed) {
@@ -25,7 +29,7 @@ final class ModelTest {
 
     /** The property "runs" sets how many runs there are. */
     static void run() {
-        int runs = Integer.getInteger("runs", 400);
+        int runs = Integer.getInteger("runs", 600);
         for (int seed = 0; seed < runs; seed++) {
             new ModelTest(seed).oneRun();
         }
@@ -35,19 +39,25 @@ final class ModelTest {
         if (random.nextInt(5) > 0) {
             load();
         }
-        for (int i = 0; i < 300 && fine; i++) {
+        while (fine && made < MOST_CALLS - 120) {
             step();
-            if (fine && random.nextInt(30) == 0) {
-                lookAtAll();
+            for (int i = random.nextInt(4); i > 1; i--) {
+                look();
             }
         }
+        while (fine && made < MOST_CALLS) {
+            look();
+        }
         if (fine) {
-            lookAtAll();
             Check.passed++;
         }
     }
 
     private void same(String call, IntSupplier got, IntSupplier due) {
+        if (made == MOST_CALLS) {
+            return;
+        }
+        made++;
         String g = Check.answer(got);
         String d = Check.answer(due);
         if (!looking) {
@@ -217,27 +227,40 @@ final class ModelTest {
         }
     }
 
-    private void lookAtAll() {
+    /** One number of what there is. */
+    private void look() {
         looking = true;
-        for (int w = -1; w <= 14; w++) {
-            int what = w;
-            same("about " + w, () -> log.about(what), () -> model.about(what));
-            same("lastCut " + w, () -> log.lastCut(what), () -> model.lastCut(what));
-            same("keyAt " + w, () -> log.keyAt(what), () -> model.keyAt(what));
-            for (int i = -1; i <= 32; i++) {
-                int p = i;
-                same("page " + i + " " + w, () -> log.page(p, what), () -> model.page(p, what));
-                same("block " + i + " " + w, () -> log.block(p, what), () -> model.block(p, what));
-            }
-        }
-        for (int k = -1; k <= 16; k++) {
-            int key = k;
-            same("get " + k, () -> log.get(key), () -> model.get(key));
-            same("newest " + k, () -> log.newest(key), () -> model.newest(key));
-        }
-        for (int k = 0; k < 3; k++) {
-            int p = random.nextInt(16);
-            same("lasts " + p, () -> log.lasts(p), () -> model.lasts(p));
+        int what = number(6);
+        int page = number(4 * model.about(0) + 1);
+        int block = number(model.about(0) + 1);
+        int key = number(16);
+        switch (random.nextInt(12)) {
+            case 0:
+            case 1:
+                int n = number(14);
+                same("about " + n, () -> log.about(n), () -> model.about(n));
+                break;
+            case 2:
+                same("lastCut " + what, () -> log.lastCut(what), () -> model.lastCut(what));
+                break;
+            case 3:
+                same("keyAt " + key, () -> log.keyAt(key), () -> model.keyAt(key));
+                break;
+            case 4:
+                same("get " + key, () -> log.get(key), () -> model.get(key));
+                break;
+            case 5:
+                same("newest " + key, () -> log.newest(key), () -> model.newest(key));
+                break;
+            case 6:
+                same("lasts " + key, () -> log.lasts(key), () -> model.lasts(key));
+                break;
+            case 7:
+            case 8:
+                same("block " + block + " " + what, () -> log.block(block, what), () -> model.block(block, what));
+                break;
+            default:
+                same("page " + page + " " + what, () -> log.page(page, what), () -> model.page(page, what));
         }
         looking = false;
     }

@@ -34,9 +34,12 @@ final class SlotTests {
         Check.same("restore of the later state", log.restore(0), 3);
     }
 
+    private static TornPageLog swept() {
+        return Look.loaded("F503p00001p00002p00003p00004p01005p02006p01007q2c05w");
+    }
+
     private static void everythingIsSaved() {
-        TornPageLog log = Look.loaded("F503p00001p00002p00003p00004p01005p02006p01007q2c05w");
-        String powerOn = Look.at(log);
+        TornPageLog log = swept();
         log.save(0);
         log.cut(1);
         log.put(3, 3);
@@ -45,15 +48,20 @@ final class SlotTests {
         log.start();
         log.setPolicy(0);
         log.put(3, 4);
-        log.restore(0);
-        Check.same("restore to a state with power:", Look.at(log), powerOn);
         log.restore(1);
         Check.same("restore to a state without power:", Look.at(log), powerOff);
         Check.badState(log, "get behind it", () -> log.get(0));
         Check.same("start behind it", log.start(), 3);
-        log.clearText();
-        log.restore(0);
-        Check.same("the text is not in a slot", log.clearText(), 0);
+        TornPageLog other = swept();
+        String powerOn = Look.at(other);
+        other.save(0);
+        other.cut(1);
+        other.put(3, 3);
+        other.restore(0);
+        Check.same("restore to a state with power:", Look.at(other), powerOn);
+        other.clearText();
+        other.restore(0);
+        Check.same("the text is not in a slot", other.clearText(), 0);
     }
 
     private static void undoAndSlots() {
