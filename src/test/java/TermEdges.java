@@ -142,6 +142,13 @@ final class TermEdges {
         Check.same("its value", log.get(0), 7);
         TornPageLog other = Run.made("F420", "p00001 p01000 p01000 p02000 p00002 p01000 w");
         chip(other, "behind another sweep", "1[- - - -] 0*[0:2@5 1:0@6 2:0@7 -] 0[- - - -] 0[- - - -]");
+        TornPageLog zero = Run.made("F420", DEAD_BLOCK + " w p01000 p00001 p00002 p03000 p03000 p03000 p03000"
+                + " p03000 p00003 p04000 p05000");
+        Run.same(zero, "a record at the address 0, then a sweep", "p00007 w", "0 1");
+        chip(zero, "the record at the address 0 is the newest", "1*[0:7@17 1:0@18 - -] 1[- - - -] 1[- - - -]"
+                + " 0[3:0@13 0:3@14x 4:0@15 5:0@16]");
+        Check.same("newest at the address 0", zero.newest(0), 0);
+        Check.same("get of the address 0", zero.get(0), 7);
         TornPageLog third = Run.made("F420", "p00001 p01000 p02000 p03000 p04000 p04000 p04000 p00002 p04000 q2 w");
         chip(third, "a dead page is not copied", "1[- - - -]"
                 + " 0[4:0@5x 4:0@6x 4:0@7x 0:2@8] 0*[4:0@9 1:0@10 2:0@11 3:0@12] 0[- - - -]");
