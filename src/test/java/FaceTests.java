@@ -8,11 +8,14 @@ import java.util.TreeSet;
 
 /** The face of the class: all that the document lists, and nothing else that is not private. */
 final class FaceTests {
-    private static final String[] CALLS = {"append(int)", "clearText()", "errorPosition()", "load()", "about(int)",
-        "page(int,int)", "block(int,int)", "get(int)", "keyAt(int)", "newest(int)", "lastCut(int)", "put(int,int)",
-        "remove(int)", "sweep()", "cut(int)", "start()", "setPolicy(int)", "undo()", "victim()", "whyNoRoom()",
-        "operations()", "afterCut(int,int,int)", "lasts(int)", "oldest()", "runScript(int,long)",
-        "simulate(long,int)", "save(int)", "restore(int)"};
+    /** Each method with the exceptions that it declares, in the order of the document. */
+    private static final String[] CALLS = {"append(int) argument state", "clearText()", "errorPosition()",
+        "load() state", "about(int) argument", "page(int,int) index argument", "block(int,int) index argument",
+        "get(int) argument state", "keyAt(int) argument", "newest(int) argument", "lastCut(int) argument",
+        "put(int,int) argument state", "remove(int) argument state", "sweep() state", "cut(int) argument state",
+        "start() state", "setPolicy(int) argument", "undo() state", "victim()", "whyNoRoom()", "operations() state",
+        "afterCut(int,int,int) argument state", "lasts(int) argument", "oldest()", "runScript(int,long) argument",
+        "simulate(long,int) argument", "save(int) index", "restore(int) index state"};
 
     private FaceTests() {
     }
@@ -25,7 +28,7 @@ final class FaceTests {
         for (Method m : TornPageLog.class.getDeclaredMethods()) {
             if (!Modifier.isPrivate(m.getModifiers())) {
                 String types = Arrays.toString(m.getParameterTypes()).replaceAll("[\\[\\] ]", "");
-                open.add(m.getName() + "(" + types + ")");
+                open.add(m.getName() + "(" + types + ")" + declared(m));
                 names.add(m.getName());
                 Check.isTrue(m.getName() + " answers an int", m.getReturnType() == int.class
                         && Modifier.isPublic(m.getModifiers()) && !Modifier.isStatic(m.getModifiers()));
@@ -51,5 +54,13 @@ final class FaceTests {
             Check.isTrue(inside.getName() + " is static and not open", Modifier.isStatic(inside.getModifiers())
                     && !Modifier.isPublic(inside.getModifiers()) && !Modifier.isProtected(inside.getModifiers()));
         }
+    }
+
+    private static String declared(Method m) {
+        StringBuilder names = new StringBuilder();
+        for (Class<?> e : m.getExceptionTypes()) {
+            names.append(" ").append(Run.shortName(e.getSimpleName()));
+        }
+        return names.toString();
     }
 }

@@ -41,7 +41,10 @@ final class Run {
     }
 
     static String shortAnswer(IntSupplier call) {
-        String answer = Check.answer(call);
+        return shortName(Check.answer(call));
+    }
+
+    static String shortName(String answer) {
         return answer.replace("IllegalArgumentException", "argument").replace("IllegalStateException", "state")
                 .replace("IndexOutOfBoundsException", "index");
     }
